@@ -4,7 +4,8 @@ import java.util.Arrays;
 public final class EstateDesk {
     public static final int NONE = -1;
 
-    // Persons, assets, debts and clauses all bear the numbers 1 to MOST; rows keep a place 0 so that a number is its own index.
+    // Persons, assets, debts and clauses all bear the numbers 1 to MOST; rows keep a place 0, so that a number is its own
+    // index and 0 can stand for the heirs at law, nobody, or no asset.
     private static final int MOST = 40;
     private static final int RANKS = 4;
     private static final int LAST_DAY = 100000;
@@ -288,7 +289,8 @@ public final class EstateDesk {
         private final boolean[] fund = new boolean[MOST + 1];
         private final boolean[] gone = new boolean[MOST + 1];
 
-        // By the last settling. No asset is in a gift and in a legacy, so what is left is that of its own debts or of drawn parts.
+        // By the last settling. No asset is in a gift and in a legacy too, so one row serves what own debts leave of a
+        // given asset and what drawn parts leave of a fund.
         private final long[] left = new long[MOST + 1];
         private final int[] givenBy = new int[MOST + 1];
         private final int[] holder = new int[MOST + 1];
@@ -401,7 +403,7 @@ public final class EstateDesk {
 
         void among(long[] weights, long amount) {
             long whole = total(weights);
-            if (whole <= 0) {
+            if (whole <= 0 || amount <= 0) {
                 Arrays.fill(share, 0);
                 return;
             }
@@ -418,7 +420,7 @@ public final class EstateDesk {
             }
         }
 
-        /** The product of amount and weight may be beyond a long, so the weight is taken digit by digit, as in long division. */
+        /** Amount times weight may be beyond a long, so the weight is taken digit by digit, as in long division. */
         private void cut(int number, long amount, long weight, long whole) {
             long part = amount % whole;
             long quotient = 0;
