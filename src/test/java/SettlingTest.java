@@ -25,6 +25,8 @@ public final class SettlingTest {
         splitOfWeightsThatAreNothing();
         takerOfSeveralClauses();
         settlingIsDoneAnew();
+        settlingForgetsTheOneBefore();
+        lastNumbersCount();
         Check.end();
     }
 
@@ -435,5 +437,68 @@ public final class SettlingTest {
             Check.due("anew: asset", x.assetTo(1), 1);
             Check.due("anew: its value", x.gets(1, 0), 300);
         }
+    }
+
+    private static void settlingForgetsTheOneBefore() {
+        EstateDesk x = deskOfAllClasses();
+        x.debt(2, 10, 1);
+        x.settle();
+        Check.due("before: a share of the residue", x.told(6, 3), 50);
+        for (int clause = 1; clause <= 6; clause++) {
+            x.taker(clause, 1, 40);
+        }
+        x.settle();
+        for (int clause = 1; clause <= 6; clause++) {
+            for (int what = 0; what <= 4; what++) {
+                Check.due("forgotten: told(" + clause + ", " + what + ")", x.told(clause, what), 0);
+            }
+        }
+        Check.due("forgotten: T", x.sum(2), 750);
+        Check.due("forgotten: D", x.sum(3), 10);
+        Check.due("forgotten: G", x.sum(4), 0);
+        Check.due("forgotten: N", x.sum(5), 0);
+        Check.due("forgotten: S", x.sum(6), 0);
+        Check.due("forgotten: heirs at law", x.gets(0, 1), 740);
+        x.debt(1, 750, 0);
+        x.settle();
+        Check.due("forgotten: in a shortage too", x.told(3, 1), 0);
+        Check.due("forgotten: heirs at law", x.gets(0, 1), 0);
+    }
+
+    private static void lastNumbersCount() {
+        EstateDesk x = new EstateDesk();
+        x.testator(1);
+        x.taker(40, 1, 40);
+        x.asset(40, 100, true);
+        x.debt(40, 30, 40);
+        x.gift(40, 40);
+        x.settle();
+        Check.due("gift 40: value", x.told(40, 0), 70);
+        Check.due("gift 40: owes", x.gets(40, 2), 30);
+        Check.due("gift 40: asset 40", x.assetTo(40), 40);
+        Check.state("gift 40 has asset 40", () -> x.gift(39, 40));
+        Check.state("gift 40 gives asset 40", () -> x.legacy(39, 1, 40));
+        x.asset(1, 10, true);
+        x.gift(1, 1);
+        Check.state("gift 1 gives asset 1", () -> x.legacy(39, 1, 1));
+        x.charge(40, false);
+        x.settle();
+        Check.due("gift 40: bears", x.told(40, 1), 20);
+        Check.due("gift 40: abated", x.clauseState(40), 3);
+        x.debt(40, 200, 0);
+        x.settle();
+        Check.due("gift 40: bears all in a shortage", x.told(40, 1), 100);
+        Check.due("gift 40: abated in a shortage", x.clauseState(40), 3);
+        x.debt(40, 30, 0);
+        x.legacy(40, 95, 40);
+        x.settle();
+        Check.due("legacy 40: drawn", x.told(40, 2), 95);
+        Check.due("legacy 40: gets", x.told(40, 3), 80);
+        x.residue(40, 7);
+        x.settle();
+        Check.due("residue 40: gets", x.told(40, 3), 80);
+        x.annuity(40, 100, 99);
+        x.settle();
+        Check.due("annuity 40: gets", x.gets(40, 1), 80);
     }
 }
