@@ -1,3 +1,5 @@
+import java.util.function.LongSupplier;
+
 /** What the tests share: every answer that is not the one due is printed, and the test then ends with exit code 1. */
 final class Check {
     interface Call {
@@ -6,8 +8,14 @@ final class Check {
 
     private static int wrong = 0;
     private static int made = 0;
+    private static String sentence = "";
 
     private Check() {
+    }
+
+    /** The sentence of the document that the next answers are due by. */
+    static void by(String text) {
+        sentence = "[" + text + "] ";
     }
 
     static void due(String what, long got, long want) {
@@ -36,6 +44,15 @@ final class Check {
         due(what, thrownBy(call), "IllegalStateException");
     }
 
+    /** The answer as a text, or the name of the exception that came in its place. */
+    static String outcome(LongSupplier call) {
+        try {
+            return String.valueOf(call.getAsLong());
+        } catch (RuntimeException e) {
+            return e.getClass().getSimpleName();
+        }
+    }
+
     static void end() {
         if (made == 0) {
             tell("no answer was looked at");
@@ -55,6 +72,6 @@ final class Check {
 
     private static void tell(String text) {
         wrong++;
-        System.out.println(text);
+        System.out.println(sentence + text);
     }
 }
