@@ -352,6 +352,20 @@ public final class FactsTest {
         Check.argument("charge: no clause", () -> x.charge(3, false));
         x.settle();
         Check.due("charge: wrong calls change nothing", x.told(2, 0), 70);
+        x.person(2, 1);
+        Check.passes("charge: a gift that will lapse", () -> x.charge(2, false));
+        x.settle();
+        Check.due("charge: it is lapsed", x.clauseState(2), 1);
+        x.person(2, 0);
+        x.settle();
+        Check.due("charge: told of it all the same", x.told(2, 0), 100);
+        x.asset(3, 50, false);
+        x.gift(3, 3);
+        x.gone(3);
+        Check.passes("charge: a gift that will fail", () -> x.charge(3, false));
+        x.charge(3, true);
+        x.settle();
+        Check.due("charge: each gift for itself", x.told(2, 0), 100);
         x.legacy(2, 7, 0);
         Check.argument("charge: no gift any more", () -> x.charge(2, false));
     }
@@ -379,7 +393,13 @@ public final class FactsTest {
         x.debt(1, 0, 1);
         x.settle();
         Check.due("debt: of nothing", x.sum(3), 30);
-        x.debt(1, MOST_CENTS, 0);
+        Check.due("debt: of nothing, paid", x.paid(1), 0);
+        x.gone(1);
+        Check.passes("debt: on what is gone", () -> x.debt(1, 5, 1));
+        Check.due("debt: on what is gone", x.settle(), 35);
+        x.asset(40, 100, false);
+        x.debt(40, 30, 40);
+        x.debt(1, MOST_CENTS, 40);
         Check.due("debt: the greatest", x.settle(), MOST_CENTS + 30 - 100);
     }
 
